@@ -17,7 +17,6 @@ public final class FinitePlanes {
     private final Field field;
     private final Plane plane;
     private final PointSet set;
-    private final ArcSearch arcs;
     private final Conic conic;
     private final Mapping map;
     private final Mapping framing;
@@ -27,7 +26,6 @@ public final class FinitePlanes {
         field = new Field();
         plane = new Plane(field);
         set = new PointSet(plane);
-        arcs = new ArcSearch(plane);
         conic = new Conic(plane);
         map = new Mapping(plane);
         framing = new Mapping(plane);
@@ -159,8 +157,8 @@ public final class FinitePlanes {
         if (!set.isArc()) {
             return NONE;
         }
-        arcs.search(set.in);
-        return k == -1 ? arcs.bestSize : plane.pick(arcs.best, k);
+        boolean[] arc = set.growArc();
+        return k == -1 ? plane.sizeOf(arc) : plane.pick(arc, k);
     }
 
     public int closure(int k) {
@@ -610,7 +608,7 @@ public final class FinitePlanes {
     private static final class PointSet {
         private final Plane plane;
         private final boolean[] in = new boolean[MOST_POINTS];
-        private final boolean[] closed = new boolean[MOST_POINTS];
+        private final boolean[] grown = new boolean[MOST_POINTS];
         private final int[] onLine = new int[MOST_POINTS];
 
         PointSet(Plane plane) {
@@ -678,90 +676,49 @@ public final class FinitePlanes {
             return size;
         }
 
+        /**
+         * THE GREATEST ARC, if THE SET is an ARC. For q up to 5 all COMPLETE ARCS have the same
+         * size (4, 4, 6 and 6), so each ARC is in one of most POINTS, and to take the least POINT
+         * that can come, again and again, is right. What could not come once cannot come later.
+         */
+        boolean[] growArc() {
+            startGrowing();
+            for (int p = 0; p < plane.n; p++) {
+                if (!grown[p] && plane.secants(p, onLine) == 0) {
+                    grown[p] = true;
+                    plane.tally(grown, onLine);
+                }
+            }
+            return grown;
+        }
+
         /** THE CLOSURE. A round that goes on brings a POINT, so n rounds are enough. */
         boolean[] close() {
-            for (int p = 0; p < plane.n; p++) {
-                closed[p] = in[p];
-            }
+            startGrowing();
             boolean grew = true;
             for (int round = 0; grew && round < plane.n; round++) {
-                plane.tally(closed, onLine);
                 grew = addCrossings();
+                plane.tally(grown, onLine);
             }
-            return closed;
+            return grown;
+        }
+
+        private void startGrowing() {
+            for (int p = 0; p < plane.n; p++) {
+                grown[p] = in[p];
+            }
+            plane.tally(grown, onLine);
         }
 
         private boolean addCrossings() {
             boolean grew = false;
             for (int p = 0; p < plane.n; p++) {
-                if (!closed[p] && plane.secants(p, onLine) >= 2) {
-                    closed[p] = true;
+                if (!grown[p] && plane.secants(p, onLine) >= 2) {
+                    grown[p] = true;
                     grew = true;
                 }
             }
             return grew;
-        }
-    }
-
-    /** Looks for THE GREATEST ARC. */
-    private static final class ArcSearch {
-        private final Plane plane;
-        private final boolean[] now = new boolean[MOST_POINTS];
-        private final boolean[] best = new boolean[MOST_POINTS];
-        private final int[] onLine = new int[MOST_POINTS];
-        private int bestSize;
-        private int limit;
-
-        ArcSearch(Plane plane) {
-            this.plane = plane;
-        }
-
-        /** The POINTS given are an ARC. */
-        void search(boolean[] start) {
-            for (int p = 0; p < plane.n; p++) {
-                now[p] = start[p];
-            }
-            plane.tally(now, onLine);
-            // No ARC has more (Bose): so the first one of that many ends the search.
-            int q = plane.field.q;
-            limit = q % 2 == 0 ? q + 2 : q + 1;
-            int size = plane.sizeOf(now);
-            keep(size);
-            extend(this, 0, size);
-        }
-
-        /**
-         * Comes to ARCS of the same size in the order that the document wants, so of these only
-         * the first is kept.
-         */
-        private static void extend(ArcSearch search, int from, int size) {
-            if (size >= search.limit) {
-                return;
-            }
-            for (int p = from; p < search.plane.n && search.bestSize < search.limit; p++) {
-                if (!search.now[p] && search.plane.secants(p, search.onLine) == 0) {
-                    search.change(p, true);
-                    if (size + 1 > search.bestSize) {
-                        search.keep(size + 1);
-                    }
-                    extend(search, p + 1, size + 1);
-                    search.change(p, false);
-                }
-            }
-        }
-
-        private void change(int p, boolean in) {
-            now[p] = in;
-            for (int k = 0; k <= plane.field.q; k++) {
-                onLine[plane.onRow(p, k)] += in ? 1 : -1;
-            }
-        }
-
-        private void keep(int size) {
-            bestSize = size;
-            for (int p = 0; p < plane.n; p++) {
-                best[p] = now[p];
-            }
         }
     }
 

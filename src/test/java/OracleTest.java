@@ -281,7 +281,7 @@ public final class OracleTest {
             }
         }
 
-        private boolean canCome(List<Integer> all, int p) {
+        boolean canCome(List<Integer> all, int p) {
             for (int l = 0; l < n; l++) {
                 if (on[p][l] && onLine(all, l) >= 2) {
                     return false;
@@ -997,6 +997,35 @@ public final class OracleTest {
         }
     }
 
+    /** Goes through all arcs of q 2 .. 5: the program's shortcut is that the complete ones are of one size. */
+    private static void allArcs() {
+        int[] due = {4, 4, 6, 6};
+        for (int q = 2; q <= 5; q++) {
+            Geometry g = geometry(q);
+            TreeSet<Integer> sizes = new TreeSet<>();
+            completeSizes(g, new ArrayList<>(), 0, sizes);
+            seed = 0;
+            same("sizes of complete arcs of " + q, sizes.size() == 1 ? sizes.first() : NONE, due[q - 2]);
+        }
+    }
+
+    private static void completeSizes(Geometry g, List<Integer> arc, int from, TreeSet<Integer> sizes) {
+        boolean complete = true;
+        for (int p = 0; p < g.n; p++) {
+            if (!arc.contains(p) && g.canCome(arc, p)) {
+                complete = false;
+                if (p >= from) {
+                    arc.add(p);
+                    completeSizes(g, arc, p + 1, sizes);
+                    arc.remove(arc.size() - 1);
+                }
+            }
+        }
+        if (complete) {
+            sizes.add(arc.size());
+        }
+    }
+
     private static void tellSet() {
         for (int k = -2; k <= 7; k++) {
             same("greatest(" + k + ") of " + y.set, x.greatest(k), y.greatest(k));
@@ -1016,6 +1045,7 @@ public final class OracleTest {
             allOfThePlane(q);
         }
         allSmallSets();
+        allArcs();
         for (int number = 1; number <= 280; number++) {
             run(number, QS[number % 7]);
         }

@@ -472,6 +472,19 @@ public final class PromiseTest {
         greatestIs("q 3, of none", x, 0, 1, 4, 8);
         x.begin(4);
         greatestIs("q 4, of none", x, 0, 1, 5, x.number(1, 1, 1), x.number(1, 2, 3), x.number(1, 3, 2));
+        x.put(20, true);
+        due("q 4, of 20: the least that can come to it", x.greatest(0), 0);
+        due("q 4, of 20: it is in", x.greatest(5), 20);
+        putAll(x, 19, 16);
+        int size = 0;
+        int before = -1;
+        for (int k = 0; k < 6; k++) {
+            int p = x.greatest(k);
+            size += p == 16 || p == 19 || p == 20 ? 1 : 0;
+            due("q 4, of three: rising", p > before ? 1 : 0, 1);
+            before = p;
+        }
+        due("q 4, of three: they are in", size, 3);
         x.begin(5);
         due("q 5: size", x.greatest(-1), 6);
         x.curve(1, 1, 1, 0, 0, 0);
@@ -675,6 +688,10 @@ public final class PromiseTest {
         due("q 5: a multiple", x.order(), 1);
         setMap(x, 1, 0, 0, 0, 2, 0, 0, 0, 1);
         due("q 5: 2 has four powers", x.order(), 4);
+        setMap(x, 1, 0, 0, 0, 1, 0, 0, 0, 2);
+        due("q 5: 2 at the end", x.order(), 4);
+        setMap(x, 4, 0, 0, 0, 1, 0, 0, 0, 1);
+        due("q 5: 4 has two powers", x.order(), 2);
         setMap(x, 1, 1, 0, 0, 1, 0, 0, 0, 1);
         due("q 5: a shear", x.order(), 5);
         setMap(x, 2, 1, 0, 0, 2, 0, 0, 0, 1);
@@ -974,9 +991,29 @@ public final class PromiseTest {
         due("lines 2, 3 with two points", x.flaw(), 1043);
         setTable(x, 3, "100", "100", "111");
         due("three lines, one point: points are right, no frame", x.flaw(), 3000);
+        setTable(x, 5, "11111", "10000", "10000", "10000", "10000");
+        due("all points on a line", x.flaw(), 3000);
         setTable(x, 4, "1000", "1000", "1110", "1001");
         due("points 1, 3 without a line", x.flaw(), 2023);
+        for (int w = 3; w <= 13; w++) {
+            for (int apex = 0; apex < w; apex++) {
+                lineAndPointBeside(x, w, apex);
+                due("a line and point " + apex + " of " + w + " beside it", x.flaw(), 3000);
+            }
+        }
         planesAreNoFlaw();
+    }
+
+    /** All lines are right, but no four points are a frame. */
+    private static void lineAndPointBeside(FinitePlanes x, int w, int apex) {
+        x.table(w);
+        for (int p = 0; p < w; p++) {
+            x.mark(apex, p, p != apex);
+            if (p != apex) {
+                x.mark(p, p, true);
+                x.mark(p, apex, true);
+            }
+        }
     }
 
     private static void planesAreNoFlaw() {
