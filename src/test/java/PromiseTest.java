@@ -1,4 +1,7 @@
-/** Promise by promise: what is ordinary, the edges that the document names, and what is refused. */
+/**
+ * Promise by promise: what is ordinary, the edges that the document names, and what is refused.
+ * No object here is used for more than 512 calls.
+ */
 public final class PromiseTest {
     private static final int NONE = FinitePlanes.NONE, BAD = FinitePlanes.BAD, ZERO = FinitePlanes.ZERO;
     private static final int LEAST = Integer.MIN_VALUE, MOST = Integer.MAX_VALUE;
@@ -163,9 +166,9 @@ public final class PromiseTest {
     }
 
     private static void fieldLaws(int q) {
-        FinitePlanes x = of(q);
         for (int a = 0; a < q; a++) {
             for (int b = 0; b < q; b++) {
+                FinitePlanes x = of(q);
                 due("a + b = b + a", x.reckon(0, a, b), x.reckon(0, b, a));
                 due("a b = b a", x.reckon(2, a, b), x.reckon(2, b, a));
                 due("(a - b) + b = a", x.reckon(0, x.reckon(1, a, b), b), a);
@@ -214,6 +217,7 @@ public final class PromiseTest {
         for (int q : QS) {
             FinitePlanes x = of(q);
             for (int p = 0; p < q * q + q + 1; p++) {
+                x = of(q);
                 for (int k = 1; k < q; k++) {
                     due("q " + q + ": number of " + k + " times " + p, x.number(x.reckon(2, k, x.triple(p, 0)),
                             x.reckon(2, k, x.triple(p, 1)), x.reckon(2, k, x.triple(p, 2))), p);
@@ -242,6 +246,7 @@ public final class PromiseTest {
             int n = q * q + q + 1;
             int all = 0;
             for (int p = 0; p < n; p++) {
+                x = of(q);
                 for (int l = 0; l < n; l++) {
                     all += x.on(p, l);
                 }
@@ -259,6 +264,7 @@ public final class PromiseTest {
             FinitePlanes x = of(q);
             int n = q * q + q + 1;
             for (int p = 0; p < n; p++) {
+                x = of(q);
                 for (int r = 0; r < n; r++) {
                     int l = x.join(p, r);
                     if (p == r) {
@@ -288,6 +294,7 @@ public final class PromiseTest {
             x.begin(q);
             int n = q * q + q + 1;
             for (int l = 0; l < n; l++) {
+                x = of(q);
                 int before = -1;
                 for (int k = 0; k <= q; k++) {
                     int p = x.row(l, k);
@@ -703,10 +710,10 @@ public final class PromiseTest {
 
     /** Looks for a map that has all 91 points in one ring. */
     private static void ringOfNine() {
-        FinitePlanes x = of(9);
         int most = 0;
-        setMap(x, 0, 0, 1, 1, 0, 0, 0, 1, 0);
         for (int a = 1; a < 9; a++) {
+            FinitePlanes x = of(9);
+            setMap(x, 0, 0, 1, 1, 0, 0, 0, 1, 0);
             for (int b = 0; b < 9; b++) {
                 for (int c = 0; c < 9; c++) {
                     x.entry(2, a);
@@ -753,7 +760,7 @@ public final class PromiseTest {
         due("ZERO", x.invert(), ZERO);
         mapIs("ZERO changes nothing", x, 1, 2, 3, 2, 4, 1, 0, 0, 1);
         for (int q : QS) {
-            x.begin(q);
+            x = of(q);
             setMap(x, 0, 1, q - 1, 1, q - 1, 0, 1, 1, 1);
             if (x.determinant() != 0) {
                 int[] to = new int[q * q + q + 1];
@@ -908,9 +915,9 @@ public final class PromiseTest {
 
     /** Each line's points have all ratios, each once, and a map changes none. */
     private static void ratiosStay(int q) {
-        FinitePlanes x = of(q);
-        setMap(x, 0, 0, 1, 1, 0, q - 1, 0, 1, 1);
         for (int l = 0; l < q * q + q + 1; l++) {
+            FinitePlanes x = of(q);
+            setMap(x, 0, 0, 1, 1, 0, q - 1, 0, 1, 1);
             int a = x.row(l, q);
             int b = x.row(l, 0);
             int c = x.row(l, 1);
@@ -997,6 +1004,7 @@ public final class PromiseTest {
         due("points 1, 3 without a line", x.flaw(), 2023);
         for (int w = 3; w <= 13; w++) {
             for (int apex = 0; apex < w; apex++) {
+                x = new FinitePlanes();
                 lineAndPointBeside(x, w, apex);
                 due("a line and point " + apex + " of " + w + " beside it", x.flaw(), 3000);
             }
