@@ -129,51 +129,52 @@ public final class LanguageTest {
         com.sun.management.ThreadMXBean bean =
                 (com.sun.management.ThreadMXBean) ManagementFactory.getThreadMXBean();
         long thread = Thread.currentThread().getId();
-        long least = Long.MAX_VALUE;
-        // The machine may make something of its own while it warms up: so the best of some rounds.
-        for (int round = 0; round < 5; round++) {
-            FinitePlanes x = new FinitePlanes();
-            long before = bean.getThreadAllocatedBytes(thread);
-            allCalls(x);
-            least = Math.min(least, bean.getThreadAllocatedBytes(thread) - before);
+        for (int q = 2; q <= 9; q++) {
+            long least = Long.MAX_VALUE;
+            // The machine may make something of its own while it warms up: so the best of some rounds.
+            for (int round = 0; round < 5; round++) {
+                FinitePlanes x = new FinitePlanes();
+                long before = bean.getThreadAllocatedBytes(thread);
+                allCalls(x, q);
+                least = Math.min(least, bean.getThreadAllocatedBytes(thread) - before);
+            }
+            need(least == 0, "q " + q + ": calls make objects of " + least + " bytes");
         }
-        need(least == 0, "calls make objects of " + least + " bytes");
     }
 
-    private static void allCalls(FinitePlanes x) {
-        for (int q = 2; q <= 9; q++) {
-            x.begin(q);
-            for (int k = -1; k < 14; k++) {
-                x.reckon(k, 1, 1);
-                x.triple(k, 1);
-                x.number(k, 1, 1);
-                x.on(k, 2);
-                x.join(k, 0);
-                x.row(k, 1);
-                x.member(k);
-                x.count(k);
-                x.meets(k);
-                x.is(k);
-                x.greatest(k);
-                x.closure(k);
-                x.through(k);
-                x.image(k);
-                x.order();
-                x.fixed();
-                x.invert();
-                x.move();
-                x.frame(0, 1, q + 1, k);
-                x.behind(0, 1, q + 1, k);
-                x.ratio(0, 1, 2, k);
-                x.table(k);
-                x.mark(0, k, true);
-                x.flaw();
-                x.told();
-                x.curve(1, 1, 1, 0, 0, k);
-                x.put(k, k % 2 == 0);
-                x.entry(k, 1);
-                x.determinant();
-            }
+    /** Fewer than 512 calls. */
+    private static void allCalls(FinitePlanes x, int q) {
+        x.begin(q);
+        for (int k = -1; k < 14; k++) {
+            x.reckon(k, 1, 1);
+            x.triple(k, 1);
+            x.number(k, 1, 1);
+            x.on(k, 2);
+            x.join(k, 0);
+            x.row(k, 1);
+            x.member(k);
+            x.count(k);
+            x.meets(k);
+            x.is(k);
+            x.greatest(k);
+            x.closure(k);
+            x.through(k);
+            x.image(k);
+            x.order();
+            x.fixed();
+            x.invert();
+            x.move();
+            x.frame(0, 1, q + 1, k);
+            x.behind(0, 1, q + 1, k);
+            x.ratio(0, 1, 2, k);
+            x.table(k);
+            x.mark(0, k, true);
+            x.flaw();
+            x.told();
+            x.curve(1, 1, 1, 0, 0, k);
+            x.put(k, k % 2 == 0);
+            x.entry(k, 1);
+            x.determinant();
         }
     }
 
