@@ -8,6 +8,7 @@ public final class FinitePlanes {
     public static final int NONE = -1, BAD = -2, ZERO = -3;
 
     private static final int MOST_NUMBERS = 9;
+    private static final int MOST_BITS = 3;
     private static final int MOST_ON_LINE = 10;
     private static final int MOST_POINTS = 91;
     private static final int MOST_IN_TABLE = 13;
@@ -378,8 +379,8 @@ public final class FinitePlanes {
         private int bitProduct(int a, int b, int vanishing) {
             int product = 0;
             int shifted = a;
-            for (int bit = 1; bit < q; bit <<= 1) {
-                if ((b & bit) != 0) {
+            for (int k = 0; k < MOST_BITS; k++) {
+                if ((b >> k & 1) != 0) {
                     product ^= shifted;
                 }
                 shifted <<= 1;
@@ -470,7 +471,8 @@ public final class FinitePlanes {
                 rows[at] = 0;
                 at++;
             }
-            for (int first = 1; first < n; first += field.q) {
+            for (int block = 0; block <= field.q; block++) {
+                int first = 1 + block * field.q;
                 int rest = dot(l, first);
                 if (third != 0) {
                     rows[at] = first + field.over(field.opposite(rest), third);

@@ -26,6 +26,8 @@ public final class LanguageTest {
     private static final Set<String> CONSTANTS = Set.of("NONE", "BAD", "ZERO");
     private static final Pattern METHOD = Pattern.compile(
             "( {4}| {8})(?!if|for|switch|return|else)((public|private|static|final) )*[\\w\\[\\]]+ ?\\w*\\([^=;]*");
+    private static final Pattern COUNTING = Pattern.compile(
+            "int (\\w+) = [^;]+; (\\w+ && )?\\1 <=? [^;]+; \\1\\+\\+");
     private static int wrong = 0;
 
     private static void need(boolean holds, String what) {
@@ -103,7 +105,19 @@ public final class LanguageTest {
             Matcher matcher = Pattern.compile(pattern).matcher(code);
             need(!matcher.find(), "in the text: " + pattern);
         }
+        loopsCount(code);
         methodsAreShort(code);
+    }
+
+    /** The end of a loop is seen from its head: a counter that goes up by one against a bound. */
+    private static void loopsCount(String code) {
+        Matcher loop = Pattern.compile("\\bfor \\((.*)\\) \\{").matcher(code);
+        int loops = 0;
+        while (loop.find()) {
+            loops++;
+            need(COUNTING.matcher(loop.group(1)).matches(), "a loop that does not count: " + loop.group(1));
+        }
+        need(loops > 0 && loops == code.split("\\bfor\\b", -1).length - 1, "loops are not found in the text");
     }
 
     /** A method begins four or eight places in and ends with a brace at the same place. */
